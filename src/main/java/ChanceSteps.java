@@ -32,7 +32,7 @@ public final class ChanceSteps {
     private int imagePrograms;
     private final Sheet[] sheets = new Sheet[SHEETS];
     private final Reader reader = new Reader();
-    private final Walker walker = new Walker(programs);
+    private final Walker walker = new Walker();
     private final long[] firstRow = new long[VALUES];
     private final long[] secondRow = new long[VALUES];
 
@@ -161,10 +161,10 @@ public final class ChanceSteps {
         if (!isProgram(program) || !isName(name) || !isValue(v) || !isPart(part)) {
             return NO;
         }
-        if (refusalOf(program) != 0) {
+        Crowd end = endOf(program);
+        if (end == null || end.size == 0) {
             return NO;
         }
-        Crowd end = endOf(program);
         end.spread(name, firstRow);
         return partOf(firstRow[v], end.weight(), part);
     }
@@ -173,10 +173,10 @@ public final class ChanceSteps {
         if (!isProgram(program) || state < 0 || state >= STATES || !isPart(part)) {
             return NO;
         }
-        if (refusalOf(program) != 0) {
+        Crowd end = endOf(program);
+        if (end == null || end.size == 0) {
             return NO;
         }
-        Crowd end = endOf(program);
         return partOf(end.weightOf(packed(state)), end.weight(), part);
     }
 
@@ -184,10 +184,10 @@ public final class ChanceSteps {
         if (!isProgram(program) || !isName(name) || kind < 0 || kind > 5 || !isPart(part)) {
             return NO;
         }
-        if (refusalOf(program) != 0) {
+        Crowd end = endOf(program);
+        if (end == null || end.size == 0) {
             return NO;
         }
-        Crowd end = endOf(program);
         end.spread(name, firstRow);
         long sum = 0;
         for (int v = 0; v < VALUES; v++) {
@@ -200,11 +200,10 @@ public final class ChanceSteps {
         if (!isProgram(program) || name < 0 || name > NAMES) {
             return BAD;
         }
-        int refusal = refusalOf(program);
-        if (refusal != 0) {
-            return refusal;
-        }
         Crowd end = endOf(program);
+        if (end == null || end.size == 0) {
+            return end == null ? WIDE : VOID;
+        }
         if (name == NAMES) {
             return unpacked(end.likeliestState());
         }
@@ -220,11 +219,10 @@ public final class ChanceSteps {
         if (!isProgram(program) || !isName(name) || !isName(other)) {
             return BAD;
         }
-        int refusal = refusalOf(program);
-        if (refusal != 0) {
-            return refusal;
-        }
         Crowd end = endOf(program);
+        if (end == null || end.size == 0) {
+            return end == null ? WIDE : VOID;
+        }
         long all = end.weight();
         end.spread(other, firstRow);
         for (int v = 0; v < VALUES; v++) {
@@ -309,9 +307,9 @@ public final class ChanceSteps {
         if (!isSheet(sheet) || !isProgram(program) || !isName(name) || what < 0 || what > 3) {
             return BAD;
         }
-        int refusal = refusalOf(program);
-        if (refusal != 0) {
-            return refusal;
+        Crowd end = endOf(program);
+        if (end == null || end.size == 0) {
+            return end == null ? WIDE : VOID;
         }
         Sheet read = sheets[sheet];
         if (read.sort == NONE) {
@@ -322,11 +320,11 @@ public final class ChanceSteps {
         }
         switch (what) {
             case 0:
-                return firstOtherwise(read, endOf(program), name);
+                return firstOtherwise(read, end, name);
             case 1:
                 return programsThatTell(read, name);
             case 2:
-                return namesThatTell(read, program);
+                return namesThatTell(read, end);
             default:
                 return startsThatTell(read, program, name);
         }
@@ -336,11 +334,10 @@ public final class ChanceSteps {
         if (!isSheet(sheet) || !isProgram(program) || !isName(name)) {
             return BAD;
         }
-        int refusal = refusalOf(program);
-        if (refusal != 0) {
-            return refusal;
-        }
         Crowd end = endOf(program);
+        if (end == null || end.size == 0) {
+            return end == null ? WIDE : VOID;
+        }
         end.spread(name, firstRow);
         Sheet written = sheets[sheet];
         written.become(0, VALUES);
@@ -460,7 +457,7 @@ public final class ChanceSteps {
     }
 
     private boolean isProgram(int program) {
-        return program >= 0 && program < programCount && program < MOST_PROGRAMS;
+        return program >= 0 && program < programCount && program < MOST_PROGRAMS && programs[program] != null;
     }
 
     private static boolean isOfGroup(int kind, int group) {
@@ -486,11 +483,6 @@ public final class ChanceSteps {
     /** The STATES at the end of a PROGRAM that there is; null: it is WIDE. */
     private Crowd endOf(int program) {
         return walker.endFrom(programs[program], start);
-    }
-
-    private int refusalOf(int program) {
-        Crowd end = endOf(program);
-        return end == null ? WIDE : end.size == 0 ? VOID : 0;
     }
 
     private static long foldedBy(int kind, int v) {
@@ -526,16 +518,16 @@ public final class ChanceSteps {
 
     private int programsThatTell(Sheet read, int name) {
         int bits = 0;
-        for (int p = 0; p < programCount && p < MOST_PROGRAMS; p++) {
-            bits |= wouldTell(read, endOf(p), name) ? 1 << p : 0;
+        for (int p = 0; p < MOST_PROGRAMS; p++) {
+            bits |= isProgram(p) && wouldTell(read, endOf(p), name) ? 1 << p : 0;
         }
         return bits;
     }
 
-    private int namesThatTell(Sheet read, int program) {
+    private int namesThatTell(Sheet read, Crowd end) {
         int bits = 0;
         for (int name = 0; name < NAMES; name++) {
-            bits |= wouldTell(read, endOf(program), name) ? 1 << name : 0;
+            bits |= wouldTell(read, end, name) ? 1 << name : 0;
         }
         return bits;
     }
@@ -588,18 +580,18 @@ public final class ChanceSteps {
     }
 
     private static int digitAt(int state, int name) {
-        return state >>> shiftOf(name) & 15;
+        return (state >>> shiftOf(name)) & 15;
     }
 
     private static int withDigit(int state, int name, int v) {
-        return state & ~(15 << shiftOf(name)) | v << shiftOf(name);
+        return (state & ~(15 << shiftOf(name))) | (v << shiftOf(name));
     }
 
     private static int packed(int digits) {
         int state = 0;
         int rest = digits;
         for (int name = NAMES - 1; name >= 0; name--) {
-            state |= rest % 10 << shiftOf(name);
+            state |= (rest % 10) << shiftOf(name);
             rest /= 10;
         }
         return state;
@@ -617,7 +609,7 @@ public final class ChanceSteps {
     private static int maskOf(int names) {
         int mask = 0;
         for (int name = 0; name < NAMES; name++) {
-            mask |= names == NONE || (names >> name & 1) == 1 ? 15 << shiftOf(name) : 0;
+            mask |= names == NONE || ((names >> name) & 1) == 1 ? 15 << shiftOf(name) : 0;
         }
         return mask;
     }
@@ -662,6 +654,7 @@ public final class ChanceSteps {
         int codeTo;
         int lotFrom;
         boolean sees;
+        Program ran;
 
         void begin(int newKind, int newLevel) {
             kind = newKind;
@@ -677,6 +670,7 @@ public final class ChanceSteps {
             codeTo = 0;
             lotFrom = 0;
             sees = false;
+            ran = null;
         }
     }
 
@@ -779,11 +773,11 @@ public final class ChanceSteps {
                 s.bits = s.number * bitsOf(i + 1, last);
                 s.turns = 1 + s.number * turnsOf(i + 1, last);
             } else if (s.kind == RUN && s.number >= 0 && s.number < others.length) {
-                Program ran = others[s.number];
-                if (ran != null) {
-                    s.bits = ran.bits;
-                    s.turns = 1 + ran.turns;
-                    s.sees = ran.sees;
+                s.ran = others[s.number];
+                if (s.ran != null) {
+                    s.bits = s.ran.bits;
+                    s.turns = 1 + s.ran.turns;
+                    s.sees = s.ran.sees;
                 }
             }
         }
@@ -1343,7 +1337,7 @@ public final class ChanceSteps {
 
         /** False: there are too many. */
         boolean put(int state, long weight) {
-            int slot = state * SPREAD >>> 22;
+            int slot = (state * SPREAD) >>> 22;
             for (int n = 0; n < SLOTS; n++) {
                 int i = slots[slot];
                 if (i < 0 || i >= size || i >= MOST_STATES || homes[i] != slot) {
@@ -1353,7 +1347,7 @@ public final class ChanceSteps {
                     weights[i] += weight;
                     return true;
                 }
-                slot = slot + 1 & SLOTS - 1;
+                slot = (slot + 1) & (SLOTS - 1);
             }
             return false;
         }
@@ -1394,15 +1388,10 @@ public final class ChanceSteps {
 
     /** Goes through PROGRAMS: with all STATES at once, or with one by a SEED. */
     private static final class Walker {
-        private final Program[] programs;
         private final Mixer mixer = new Mixer();
         private final Crowd[] spare = new Crowd[DEEPEST];
         private int lent;
         private int z;
-
-        Walker(Program[] allPrograms) {
-            programs = allPrograms;
-        }
 
         /** The STATES at the end; null: it is WIDE. */
         Crowd endFrom(Program p, int start) {
@@ -1485,7 +1474,7 @@ public final class ChanceSteps {
             for (int i = 0; i < crowd.size && i < MOST_STATES; i++) {
                 for (int lot = 0; lot < s.number && lot < MOST_LOTS; lot++) {
                     int state = withDigit(crowd.states[i], s.name, p.lotValue(s, lot));
-                    long weight = crowd.weights[i] * p.lotWeight(s, lot) >> s.bits;
+                    long weight = (crowd.weights[i] * p.lotWeight(s, lot)) >> s.bits;
                     if (!mixer.put(state & mask, weight)) {
                         return false;
                     }
@@ -1568,10 +1557,10 @@ public final class ChanceSteps {
         }
 
         private boolean walkRun(Program p, Step s, Crowd crowd, int kept, int depth) {
-            if (kept != NONE && (kept >> s.name & 1) == 0 && !s.sees) {
+            if (kept != NONE && ((kept >> s.name) & 1) == 0 && !s.sees) {
                 return forget(crowd, kept);
             }
-            Program ran = programAt(s.number);
+            Program ran = s.ran;
             if (ran == null || !canRun(p, s, crowd, ran, depth)) {
                 return false;
             }
@@ -1582,7 +1571,7 @@ public final class ChanceSteps {
                 // All BITS together are 50 at most, so this WEIGHT has those of what is RUN to spare.
                 long share = crowd.weights[i] >> ran.bits;
                 for (int v = 0; v < VALUES; v++) {
-                    long weight = share * (ran.runs.weight(digit, v) >> MOST_BITS - ran.bits);
+                    long weight = share * (ran.runs.weight(digit, v) >> (MOST_BITS - ran.bits));
                     if (weight > 0 && !mixer.put(withDigit(crowd.states[i], s.name, v) & mask, weight)) {
                         return false;
                     }
@@ -1590,10 +1579,6 @@ public final class ChanceSteps {
             }
             mixer.pourInto(crowd);
             return true;
-        }
-
-        private Program programAt(int number) {
-            return number >= 0 && number < programs.length ? programs[number] : null;
         }
 
         /** All that these STATES RUN is gone through first, as it needs the mixer too. */
@@ -1660,7 +1645,7 @@ public final class ChanceSteps {
         private int drawn(Program p, Step s) {
             z = z * 1103515245 + 12345;
             // what the WEIGHTS come to is a power of two, so what is left by it is the lowest bits
-            int rest = z >>> 9 & (1 << s.bits) - 1;
+            int rest = (z >>> 9) & ((1 << s.bits) - 1);
             int lot = 0;
             for (int n = 0; n < MOST_LOTS && rest >= p.lotWeight(s, lot); n++) {
                 rest -= p.lotWeight(s, lot);
@@ -1679,7 +1664,7 @@ public final class ChanceSteps {
         }
 
         private int followRun(Program p, Step s, int state, int depth) {
-            Program ran = programAt(s.number);
+            Program ran = s.ran;
             if (ran == null) {
                 return NONE;
             }
