@@ -164,6 +164,7 @@ public final class ModelTests {
         }
 
         String lots() {
+            if (once(12)) return eight();
             int bits = 1 + up(once(3) ? 4 : 2);
             int rest = 1 << bits;
             StringBuilder s = new StringBuilder();

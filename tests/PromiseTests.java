@@ -132,6 +132,27 @@ public final class PromiseTests {
         due("THE TAPE behind a FAULT", y.count(1), 0);
         due("PROGRAMS behind a FAULT", y.count(0), 1);
         odds(y, 0, 0, 7, 1, 1);
+        // nothing of a text with a FAULT is left for the next one
+        ChanceSteps z = new ChanceSteps();
+        due("a FAULT in open BLOCKS", read(z, "loop 2{loop 2{if (a<(b+(c{"), -123);
+        due("4 open behind it", read(z, "loop 1{loop 1{see ((1))}};see ----1"), 0);
+        due("a text that SEES", read(z, "see f;loop 2{draw b 0:2;run c 0 d;see a}"), 1);
+        z.back();
+        ChanceSteps w = new ChanceSteps();
+        w.image();
+        due("a text that SEES", read(w, "let a b+c+d;loop 9{draw e 0:16;see f}"), 0);
+        w.back();
+        due("one in its place that doesn't", read(w, "loop 2{see 1;let a 1};draw a 0:2;draw b 1:2"), 0);
+        w.back();
+        due("one in its place", read(w, "draw a 2:2"), 0);
+        due("it doesn't SEE", w.told(0, 2), 0);
+        due("its NAMES", w.told(0, 3), 1);
+        due("its BITS", w.told(0, 1), 1);
+        due("its STEPS", w.told(0, 0), 1);
+        due("NAMES in its E", w.step(0, 0, 4), 0);
+        due("a RUN of it", read(w, "run c 0 0"), 1);
+        due("that isn't NEEDED", w.needed(1, 2), 2);
+        due("that doesn't SEE", w.told(1, 2), 0);
     }
 
     private static void faultsOfTokens() {
@@ -153,6 +174,12 @@ public final class PromiseTests {
         fault("let a 1 2", 8);
         fault("let a 1b", 7);
         fault("let a 1>2", 7);
+        fault("let az 1", 4);
+        fault("met a 1", 0);
+        fault("pee 1", 0);
+        fault("of 1{see 1}{see 1}", 0);
+        fault("sees 1", 0);
+        fault("drawn a 0:2", 0);
         fault("a", 0);
         fault("1", 0);
         fault(";", 0);
@@ -218,6 +245,8 @@ public final class PromiseTests {
         fault("draw a 0:1,", 11);
         fault("draw a 0:1,1:1,", 15);
         fault("draw a 0:1,b", 11);
+        fault("draw a 0:1,1,0:1", 12);
+        fault("draw a 0,1:1", 8);
         fault("draw a 10:1,1:1", 7);
         fault("draw a b:1,1:1", 7);
         fault("draw a 0:0,1:2", 9);
@@ -449,6 +478,16 @@ public final class PromiseTests {
         // 24 BITS twice, the products are whole
         ChanceSteps y = with("loop 6{draw b 0:1,1:15;let a a+(b=0)}", "run a 0 0;run b 0 0;see a=6;see b=6");
         due("left of 48 BITS", y.left(1, 0), y.left(1, 1), 1, 1L << 48);
+        y = with("loop 6{draw b 0:1,1:15;let a a+(b=0)};draw b 0:1,1:1;let a a+(b=0)", "run a 0 0;run b 0 0;see a=7;see b=7");
+        due("left of 50 BITS", y.left(1, 0), y.left(1, 1), 1, 1L << 50);
+        // all others are 0 where what is RUN begins, by seeds too
+        y = with("let a a+b+c+d+e+f", "let f 3;let b 2;run c 0 4;run d 0 f");
+        y.let(4, 9);
+        y.let(2, 1);
+        odds(y, 1, 2, 4, 1, 1);
+        odds(y, 1, 3, 3, 1, 1);
+        due("by a SEED", y.comes(1, 0), 24393);
+        due("all others stay", y.likeliest(1, 6), 24393);
     }
 
     private static void promise10() {
@@ -456,6 +495,10 @@ public final class PromiseTests {
         due("state", x.state(0, 213000, 0), x.state(0, 213000, 1), 2, 7);
         due("state that can't be", x.state(0, 999999, 0), x.state(0, 999999, 1), 0, 1);
         due("all 9", x.state(3, 999999, 0), x.state(3, 999999, 1), 1, 1);
+        ChanceSteps y = with("draw a 0:1,1:3");
+        due("state 0", y.state(0, 0, 0), y.state(0, 0, 1), 1, 4);
+        due("state 100000", y.state(0, 100000, 0), y.state(0, 100000, 1), 3, 4);
+        due("state 10000", y.state(0, 10000, 0), 0);
         due("state 1000000", x.state(0, 1000000, 0), NO);
         due("state -1", x.state(0, -1, 0), NO);
         due("part 2", x.state(0, 0, 2), NO);
@@ -495,6 +538,12 @@ public final class PromiseTests {
         due("the likeliest", x.likeliest(3, 5), 9);
         due("the least of like STATES", x.likeliest(3, 6), 30009);
         due("the likeliest of 3", x.likeliest(4, 1), 1);
+        ChanceSteps y = with("draw a 0:1,1:1", "draw a 5:2,0:1,3:1", "draw a 3:1,2:1,4:2", "draw f 1:1,0:2,2:1", "draw a 1:1,0:1;draw f 1:1,0:1");
+        int[][] values = {{0, 0}, {5, 500000}, {4, 400000}, {0, 0}, {0, 0}};
+        for (int p = 0; p < 5; p++) {
+            due("likeliest VALUE by " + p, y.likeliest(p, p == 3 ? 5 : 0), values[p][0]);
+            due("likeliest STATE by " + p, y.likeliest(p, 6), values[p][1]);
+        }
         due("name 7", x.likeliest(0, 7), BAD);
         due("name -1", x.likeliest(0, -1), BAD);
         due("program 5", x.likeliest(5, 0), BAD);
@@ -570,6 +619,23 @@ public final class PromiseTests {
         y.let(2, 9);
         due("c asked for", y.peak(0, 4), 2);
         due("b asked for", y.peak(0, 2), 1);
+        // the second BLOCK is the widest; what was widest before doesn't matter
+        y = with("draw a 0:1,1:1;if a{see 1}{draw b 0:1,1:1,2:1,3:1,4:1,5:1,6:1,7:1;let b 0}",
+            "if a{see 1}{see 2}", "loop 3{let d c;let c b;let b a;draw a 0:1,1:1}", "if 0{see 1}{if 0{see 1}{if 0{see 1}{draw e 0:1,1:3}}}");
+        due("of the second BLOCK", y.peak(0, -1), 8);
+        due("of the second BLOCK, b asked for", y.peak(0, 2), 2);
+        due("of the second BLOCK, a asked for", y.peak(0, 1), 2);
+        due("of one alone", y.peak(1, -1), 1);
+        due("of one alone, all asked for", y.peak(1, 63), 1);
+        due("of a LOOP that hands on, nothing FORGOTTEN", y.peak(2, -1), 8);
+        int[] handed = {2, 2, 2, 1, 4, 8};
+        int[] of = {1, 2, 4, 8, 6, 7};
+        for (int i = 0; i < 6; i++) due("of a LOOP that hands on, asked for " + of[i], y.peak(2, of[i]), handed[i]);
+        // what a call took to reckon with, it gives back
+        for (int i = 0; i < 200; i++) {
+            due("peak again", y.peak(3, 16), 2);
+            due("peak again", y.peak(0, 1), 2);
+        }
         due("names -2", x.peak(0, -2), BAD);
         due("names 64", x.peak(0, 64), BAD);
         due("program 5", x.peak(5, -1), BAD);
@@ -608,6 +674,14 @@ public final class PromiseTests {
         due("256 at an IF's end", y.told(2, 5), 256);
         y = with("loop 3{" + tens + "draw c 0:1,1:1;let c 0;let d d+1}");
         due("64 each time", y.told(0, 5), 64);
+        due("WIDE in a LOOP alone", with("draw a 0:1,1:1,2:1,3:1,4:1,5:1,6:1,7:1",
+            "loop 1{run a 0 0;run b 0 0;run c 0 0;let c 0}").told(1, 4), 1);
+        due("WIDE in a first BLOCK alone", with("draw a 0:1,1:1,2:1,3:1,4:1,5:1,6:1,7:1",
+            "if 1{run a 0 0;run b 0 0;run c 0 0;let c 0}{see 1}").told(1, 4), 1);
+        due("WIDE in a second BLOCK alone", with("draw a 0:1,1:1,2:1,3:1,4:1,5:1,6:1,7:1",
+            "if 0{see 1}{run a 0 0;run b 0 0;run c 0 0;let c 0}").told(1, 4), 1);
+        due("WIDE in what it RUNS alone", with("draw a 0:1,1:1,2:1,3:1,4:1,5:1,6:1,7:1",
+            "run a 0 0;run b 0 0;run c 0 0;let a 0;let b 0", "run a 1 0;let a 0").told(2, 4), 1);
         due("128 each time", y.peak(0, -1), 128);
         y = with("draw a 0:1,1:1,2:1,3:1,4:1,5:3;draw b 0:1,1:1,2:1,3:1,4:4;draw c 0:1,1:1,2:1,3:1,4:4;draw d 0:1,1:1");
         due("300 STATES", y.told(0, 5), 300);
