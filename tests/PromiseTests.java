@@ -138,6 +138,13 @@ public final class PromiseTests {
         due("4 open behind it", read(z, "loop 1{loop 1{see ((1))}};see ----1"), 0);
         due("a text that SEES", read(z, "see f;loop 2{draw b 0:2;run c 0 d;see a}"), 1);
         z.back();
+        ChanceSteps often = new ChanceSteps();
+        for (int i = 0; i < 30; i++) {
+            due("a long text with a FAULT", read(often, "draw a 0:1,1:1,2:1,3:1;draw b 0:1,1:1,2:1,3:1;let c a+b*a+b*a+b*a+b*a+b+"), -172);
+        }
+        due("a text behind many", read(often, "draw a 3:1,5:1;let b a+1"), 0);
+        odds(often, 0, 1, 6, 1, 2);
+        odds(often, 0, 1, 4, 1, 2);
         ChanceSteps w = new ChanceSteps();
         w.image();
         due("a text that SEES", read(w, "let a b+c+d;loop 9{draw e 0:16;see f}"), 0);
@@ -480,6 +487,16 @@ public final class PromiseTests {
         due("left of 48 BITS", y.left(1, 0), y.left(1, 1), 1, 1L << 48);
         y = with("loop 6{draw b 0:1,1:15;let a a+(b=0)};draw b 0:1,1:1;let a a+(b=0)", "run a 0 0;run b 0 0;see a=7;see b=7");
         due("left of 50 BITS", y.left(1, 0), y.left(1, 1), 1, 1L << 50);
+        // as deep as can be: six within one another, four BLOCKS in each; each DIGIT once
+        y = with("loop 1{if a<9{loop 1{if 1{let a a+1}{see 0}}}{if a=9{let a 9}{see 0}}}", "loop 1{loop 1{loop 1{if 0{see 0}{run a 0 a}}}}",
+            "loop 1{loop 1{if 0{see 0}{loop 1{run a 1 a}}}}", "if 0{see 0}{loop 1{loop 1{loop 1{run a 2 a}}}}",
+            "loop 1{loop 1{loop 1{loop 1{run a 3 a}}}}", "loop 1{loop 1{loop 1{loop 1{run a 4 a}}}}");
+        for (int a = 0; a < 10; a++) {
+            y.let(0, a);
+            odds(y, 5, 0, Math.min(a + 1, 9), 1, 1);
+            due("as deep as can be, by a SEED", y.comes(5, a), Math.min(a + 1, 9) * 100000);
+            due("as deep as can be, peak", y.peak(5, 1), 1);
+        }
         // all others are 0 where what is RUN begins, by seeds too
         y = with("let a a+b+c+d+e+f", "let f 3;let b 2;run c 0 4;run d 0 f");
         y.let(4, 9);
@@ -585,6 +602,11 @@ public final class PromiseTests {
         for (int[] w : want) {
             due("needed(" + w[0] + ", " + w[1] + ")", x.needed(w[0], w[1]), w[2]);
         }
+        ChanceSteps z = with("loop 1{loop 1{loop 1{loop 1{let a b}}}}", "if c{if d{if e{if f{let a b}{see 1}}{see 1}}{see 1}}{see 1}",
+            "if c{see 1}{if d{see 1}{if e{see 1}{if f{see 1}{let a b}}}}");
+        due("as deep as can be", z.needed(0, 1), 2);
+        due("as deep as can be in first BLOCKS", z.needed(1, 1), 63);
+        due("as deep as can be in second BLOCKS", z.needed(2, 1), 63);
         due("names -1", x.needed(0, -1), BAD);
         due("names 64", x.needed(0, 64), BAD);
         due("program 6", x.needed(6, 0), BAD);
