@@ -519,7 +519,7 @@ public final class ChanceSteps {
     private int programsThatTell(Sheet read, int name) {
         int bits = 0;
         for (int p = 0; p < MOST_PROGRAMS; p++) {
-            bits |= isProgram(p) && wouldTell(read, endOf(p), name) ? 1 << p : 0;
+            bits |= isProgram(p) && wouldTell(read, walker.endFrom(programs[p], start), name) ? 1 << p : 0;
         }
         return bits;
     }
@@ -579,8 +579,9 @@ public final class ChanceSteps {
         return (NAMES - 1 - name) * 4;
     }
 
+    // As shiftOf, but written out: no way from the face may be deeper than eight calls.
     private static int digitAt(int state, int name) {
-        return (state >>> shiftOf(name)) & 15;
+        return (state >>> ((NAMES - 1 - name) * 4)) & 15;
     }
 
     private static int withDigit(int state, int name, int v) {
@@ -1234,9 +1235,9 @@ public final class ChanceSteps {
         }
 
         private boolean isSpelt(String word) {
-            boolean same = word.length() == at - place;
+            boolean same = word.length() == at - place && place >= 0 && at <= size;
             for (int i = 0; i < word.length() && same; i++) {
-                same = byteAt(place + i) == word.charAt(i);
+                same = text[place + i] == word.charAt(i);
             }
             return same;
         }
