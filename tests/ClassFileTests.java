@@ -26,6 +26,7 @@ public final class ClassFileTests {
     /** Each method with those of the class's own that it calls. */
     private static final Map<String, Set<String>> calls = new TreeMap<>();
     private static final Set<String> face = new TreeSet<>();
+    private static final Set<String> hidden = new TreeSet<>();
 
     public static void main(String[] args) throws IOException {
         read("ChanceSteps");
@@ -79,10 +80,11 @@ public final class ClassFileTests {
 
     private static void members(DataInputStream in, Object[] pool, String owner, boolean methods) throws IOException {
         for (int n = in.readUnsignedShort(); n > 0; n--) {
-            in.readUnsignedShort();
+            int flags = in.readUnsignedShort();
             String name = owner + "." + pool[in.readUnsignedShort()];
             in.readUnsignedShort();
             if (methods) calls.putIfAbsent(name, new TreeSet<>());
+            if (methods && java.lang.reflect.Modifier.isPrivate(flags)) hidden.add(name);
             for (int k = in.readUnsignedShort(); k > 0; k--) {
                 Object attribute = pool[in.readUnsignedShort()];
                 byte[] bytes = new byte[in.readInt()];
@@ -144,6 +146,10 @@ public final class ClassFileTests {
                     if (ring.get(to) != r) deep[r] = Math.max(deep[r], deep[ring.get(to)] + 1);
                 }
             }
+        }
+        for (String m : calls.keySet()) {
+            boolean again = calls.get(m).contains(m) || rings.get(ring.get(m)).size() > 1;
+            hold(!again || hidden.contains(m), "rule 8: " + m + " is in a recursion, and not private");
         }
         for (String m : face) {
             deepest = Math.max(deepest, deep[ring.get(m)]);

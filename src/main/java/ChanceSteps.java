@@ -241,7 +241,7 @@ public final class ChanceSteps {
             return BAD;
         }
         Program asked = programs[program];
-        return asked.neededAhead(0, asked.size, names, 0);
+        return asked.neededFrom(0, asked.size, names);
     }
 
     public int peak(int program, int names) {
@@ -801,7 +801,17 @@ public final class ChanceSteps {
 
         // ---- which NAMES are NEEDED
 
-        int neededAhead(int from, int to, int behind, int depth) {
+        /** What is NEEDED ahead of the STEPS of a BLOCK from this one on, by what is behind its last. */
+        int neededFrom(int from, int to, int behind) {
+            return neededAhead(from, to, behind, 0);
+        }
+
+        /** What is NEEDED ahead of a LOOP of which so many times are to come. */
+        int neededFromTimes(int i, int times, int behind) {
+            return neededAheadOfTimes(i, times, behind, 0);
+        }
+
+        private int neededAhead(int from, int to, int behind, int depth) {
             int set = behind;
             for (int i = to - 1; i >= from && depth <= MOST_OPEN; i--) {
                 if (stepAt(i).level == stepAt(from).level) {
@@ -832,8 +842,7 @@ public final class ChanceSteps {
             }
         }
 
-        /** What is NEEDED ahead of a LOOP of which so many times are to come. */
-        int neededAheadOfTimes(int i, int times, int behind, int depth) {
+        private int neededAheadOfTimes(int i, int times, int behind, int depth) {
             int set = behind;
             for (int n = 0; n < times; n++) {
                 set = neededAhead(i + 1, behind(i), set, depth + 1);
@@ -1416,7 +1425,7 @@ public final class ChanceSteps {
             if (crowd == null) {
                 return WIDE;
             }
-            crowd.begin(start & maskOf(p.neededAhead(0, p.size, names, 0)));
+            crowd.begin(start & maskOf(p.neededFrom(0, p.size, names)));
             boolean fits = walkBlock(p, 0, p.size, crowd, names, 0);
             giveBack();
             return fits ? crowd.most : WIDE;
@@ -1445,7 +1454,7 @@ public final class ChanceSteps {
             int i = from;
             for (int n = 0; n < MOST_STEPS && i < to && fits; n++) {
                 int next = p.behind(i);
-                int keptHere = kept == NONE ? NONE : p.neededAhead(next, to, kept, 0);
+                int keptHere = kept == NONE ? NONE : p.neededFrom(next, to, kept);
                 fits = walkStep(p, i, crowd, keptHere, depth);
                 i = next;
             }
@@ -1544,7 +1553,7 @@ public final class ChanceSteps {
             int times = p.stepAt(i).number;
             boolean fits = true;
             for (int n = 1; n <= times && fits; n++) {
-                int keptHere = kept == NONE ? NONE : p.neededAheadOfTimes(i, times - n, kept, 0);
+                int keptHere = kept == NONE ? NONE : p.neededFromTimes(i, times - n, kept);
                 fits = walkBlock(p, i + 1, p.behind(i), crowd, keptHere, depth + 1);
             }
             return fits && forget(crowd, kept);
