@@ -20,6 +20,7 @@ public final class PromiseTests {
         promise8(); promise9(); runsAnew(); promise10(); promise11(); promise12(); promise13();
         promise14(); promise15(); wideness(); promise16(); promise17(); promise18();
         promise19(); promise20(); promise21And22(); promise23(); promise24(); promise25(); promise26();
+        readme();
         System.out.println(asked + " answers asked, " + wrong + " are not as due");
         if (wrong != 0) System.exit(1);
     }
@@ -1041,5 +1042,19 @@ public final class PromiseTests {
         due("sheet -1", x.copy(3, 0, -1, 0, 1), BAD);
         due("nothing changed", x.tells(0, 0, 0, 0), -1);
         due("nothing changed", x.tells(1, 1, 0, 0), -1);
+    }
+
+    /** The examples in README.md, and what it says that they print. */
+    private static void readme() {
+        ChanceSteps x = with("draw a 0:1,1:3;let b a+1");
+        odds(x, 0, 1, 2, 3, 4);
+        x = with("draw b 0:1,1:1;if b{let a a+1}{let a a*2}", "run c 0 3;run d 0 3;see c<d+1");
+        due("left(1)", x.left(1, 0), x.left(1, 1), 3, 4);
+        odds(x, 1, 2, 4, 2, 3);
+        due("apart(1, 2, 3)", x.apart(1, 2, 3), 0);
+        due("film(0, 0, 0)", x.film(0, 0, 0), 10);
+        due("let(0, 1)", x.let(0, 1), 0);
+        due("tells(0, 0, 0, 0)", x.tells(0, 0, 0, 0), 0);
+        due("tells(0, 0, 0, 3)", x.tells(0, 0, 0, 3), 1);
     }
 }
